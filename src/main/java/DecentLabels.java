@@ -87,6 +87,7 @@ public final class DecentLabels {
     private final int[] openings = new int[MAX_DEPTH];
     private final int[] elses = new int[MAX_DEPTH];
     private int openBlocks;
+    // The label that is about to flow somewhere; no method may make a new array for it.
     private final int[] source = new int[MAX_PRINCIPALS];
 
     private final int[] inputs = new int[VARS];
@@ -383,6 +384,7 @@ public final class DecentLabels {
 
     private int effectiveReaders(int owner, int readers) {
         int effective = actors[owner];
+        // The bit is tested in place: a check stands six calls deep here, the most there may be.
         for (int r = 0; r < principals; r++) {
             if ((readers & 1 << r) != 0) {
                 effective |= actors[r];

@@ -14,7 +14,10 @@ public final class P12CheckTest {
         pcComesBack();
         joins();
         flowsThroughTheHierarchy();
+        aPolicyIsNeeded();
+        everyOwnerCounts();
         declassifies();
+        authorityIsForDeclassifyAlone();
         firstFailureCounts();
         resetsAndKeeps();
         Due.end("P12CheckTest");
@@ -190,6 +193,47 @@ public final class P12CheckTest {
         Programs.passes("a superior's policy, the owner reads", x, move);
         x.setActsFor(2, 0, false);
         Programs.checks("the chain is cut", x, FLOW, 0, move);
+    }
+
+    private static void aPolicyIsNeeded() {
+        DecentLabels x = new DecentLabels(3, 8);
+        x.setPolicy(0, 0, 0b111);
+        Programs.checks("all may read, yet the policy stays", x, FLOW, 0, Programs.move(1, 0));
+        x.setPolicy(0, 0, 0b010);
+        x.setPolicy(1, 1, 0);
+        Programs.checks("a reader's own policy is not the owner's", x, FLOW, 0, Programs.move(1, 0));
+        x.setPolicy(1, 0, 0b010);
+        Programs.passes("the owner's policy beside it", x, Programs.move(1, 0));
+    }
+
+    private static void everyOwnerCounts() {
+        for (int owner = 0; owner < 8; owner++) {
+            DecentLabels x = new DecentLabels(8, 8);
+            x.setPolicy(0, owner, 0);
+            Programs.checks("set under owner " + owner, x, FLOW, 1,
+                Programs.when(0), Programs.set(1, 0), Programs.END);
+            Programs.checks("move from owner " + owner, x, FLOW, 0, Programs.move(1, 0));
+            Programs.checks("out from owner " + owner, x, FLOW, 0, Programs.out(3, 0));
+            x.setAuthority(255 - (1 << owner));
+            Programs.checks("declassify from owner " + owner, x, AUTHORITY, 0, Programs.declassify(1, 0));
+            x.setPolicy(1, owner, 0);
+            x.setPolicy(19, owner, 0);
+            Programs.passes("kept for owner " + owner, x, Programs.when(0), Programs.set(1, 0), Programs.END,
+                Programs.move(1, 0), Programs.out(3, 0), Programs.declassify(1, 0));
+            Programs.passes("the pc is empty again", x, Programs.set(2, 0));
+        }
+    }
+
+    private static void authorityIsForDeclassifyAlone() {
+        DecentLabels x = secrets();
+        x.setAuthority(0b111);
+        Programs.passes("declassify", x, Programs.declassify(1, 0));
+        Programs.checks("set", x, FLOW, 1, Programs.when(0), Programs.set(1, 0), Programs.END);
+        Programs.checks("move", x, FLOW, 0, Programs.move(1, 0));
+        Programs.checks("out", x, FLOW, 0, Programs.out(0, 0));
+        for (int kind = DecentLabels.K_ADD; kind <= DecentLabels.K_EQUAL; kind++) {
+            Programs.checks("calc", x, FLOW, 0, Programs.calc(kind, 1, 0, 0));
+        }
     }
 
     private static void declassifies() {
