@@ -24,15 +24,24 @@ public final class FaceTest {
         "SLOT_INPUT=16", "SLOT_AUTHORITY=32", "SLOT_LENGTH=33", "SLOT_POSITION=34", "SLOT_STATUS=35",
         "SLOT_CHECK=36"};
 
-    public static void main(String[] args) throws IllegalAccessException {
-        Due.is("public and final", DecentLabels.class.getModifiers(), Modifier.PUBLIC | Modifier.FINAL);
-        Due.is("nested classes", DecentLabels.class.getDeclaredClasses().length, 0);
-        Due.same("methods", methods().toString(), new TreeSet<>(Arrays.asList(METHODS)).toString());
-        Due.same("constants", constants().toString(), new TreeSet<>(Arrays.asList(CONSTANTS)).toString());
-        Constructor<?>[] constructors = DecentLabels.class.getDeclaredConstructors();
-        Due.is("constructors", constructors.length, 1);
-        Due.same("constructor", constructors[0].toString(), "public DecentLabels(int,int)");
+    public static void main(String[] args) {
+        Due.test("one class, public and final", () -> {
+            Due.is("modifiers", DecentLabels.class.getModifiers(), Modifier.PUBLIC | Modifier.FINAL);
+            Due.is("nested classes", DecentLabels.class.getDeclaredClasses().length, 0);
+        });
+        Due.test("the public methods", () -> Due.same("methods", methods(), sorted(METHODS)));
+        Due.test("the public constants", () -> Due.same("constants", constants(), sorted(CONSTANTS)));
+        Due.test("the public constructor", () -> {
+            Constructor<?>[] constructors = DecentLabels.class.getDeclaredConstructors();
+            Due.is("constructors", constructors.length, 1);
+            Due.same("constructor", constructors[0].toString(), "public DecentLabels(int,int)");
+        });
+        Due.test("no private method bears the name of a public one", FaceTest::namesAreApart);
         Due.end("FaceTest");
+    }
+
+    private static Set<String> sorted(String[] names) {
+        return new TreeSet<>(Arrays.asList(names));
     }
 
     private static boolean isPrivate(Member member) {
@@ -41,23 +50,30 @@ public final class FaceTest {
 
     private static Set<String> methods() {
         Set<String> found = new TreeSet<>();
-        Set<String> names = new TreeSet<>();
         for (Method m : DecentLabels.class.getDeclaredMethods()) {
             if (isPrivate(m)) {
-                names.add(m.getName());
                 continue;
             }
             String parameters = Arrays.toString(m.getParameterTypes()).replace("[", "(").replace("]", ")");
             found.add(m.getReturnType() + " " + m.getName() + parameters);
             Due.is(m.getName() + " is public alone", m.getModifiers(), Modifier.PUBLIC);
         }
-        for (Method m : DecentLabels.class.getDeclaredMethods()) {
-            Due.is(m.getName() + " is a private name too", !isPrivate(m) && names.contains(m.getName()), false);
-        }
         return found;
     }
 
-    private static Set<String> constants() throws IllegalAccessException {
+    private static void namesAreApart() {
+        Set<String> names = new TreeSet<>();
+        for (Method m : DecentLabels.class.getDeclaredMethods()) {
+            if (!isPrivate(m)) {
+                names.add(m.getName());
+            }
+        }
+        for (Method m : DecentLabels.class.getDeclaredMethods()) {
+            Due.is(m.getName() + " is both", isPrivate(m) && names.contains(m.getName()), false);
+        }
+    }
+
+    private static Set<String> constants() {
         Set<String> found = new TreeSet<>();
         for (Field f : DecentLabels.class.getDeclaredFields()) {
             if (isPrivate(f)) {
@@ -65,8 +81,16 @@ public final class FaceTest {
             }
             Due.is(f.getName() + " is a public constant", f.getModifiers(),
                 Modifier.PUBLIC | Modifier.STATIC | Modifier.FINAL);
-            found.add(f.getName() + "=" + f.getInt(null));
+            found.add(f.getName() + "=" + valueOf(f));
         }
         return found;
+    }
+
+    private static int valueOf(Field constant) {
+        try {
+            return constant.getInt(null);
+        } catch (IllegalAccessException impossible) {
+            throw new IllegalStateException(impossible);
+        }
     }
 }

@@ -22,6 +22,17 @@ public final class ModelTest {
     }
 
     public static void main(String[] args) {
+        Due.test("the class and the model agree", ModelTest::longRuns);
+        Due.test("every verdict comes up often", () -> {
+            for (int kind = 0; kind < verdicts.length; kind++) {
+                Due.is("verdict " + kind + ", " + verdicts[kind] + " times", verdicts[kind] >= 100, true);
+            }
+        });
+        Due.test("programs halt often", () -> Due.is(halts + " times", halts >= 100, true));
+        Due.end("ModelTest");
+    }
+
+    private static void longRuns() {
         for (int run = 0; run < RUNS; run++) {
             ModelTest test = new ModelTest(run);
             for (int call = 0; call < CALLS; call++) {
@@ -29,11 +40,6 @@ public final class ModelTest {
             }
             test.compareAll();
         }
-        for (int kind = 0; kind < verdicts.length; kind++) {
-            Due.is("verdict " + kind + " comes up often: " + verdicts[kind], verdicts[kind] >= 100, true);
-        }
-        Due.is("programs halt often: " + halts, halts >= 100, true);
-        Due.end("ModelTest");
     }
 
     // A fixed rule, so that the same calls are made every time.

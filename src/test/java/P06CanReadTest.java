@@ -1,26 +1,33 @@
 /** Promise 6: canRead. */
 public final class P06CanReadTest {
     public static void main(String[] args) {
-        outOfRange();
-        ownerAndReaders();
-        everyPolicyCounts();
-        actorsRead();
-        followsTheHierarchy();
+        Due.test("false if p < 0", () -> Wrong.below(0).forEach(p -> isFalse(p, 0)));
+        Due.test("false if p >= P", () -> Wrong.from(5).forEach(p -> isFalse(p, 0)));
+        Due.test("false if target < 0", () -> Wrong.below(0).forEach(t -> isFalse(0, t)));
+        Due.test("false if target >= 20", () -> Wrong.from(20).forEach(t -> isFalse(0, t)));
+        Due.test("false for p == P though the label is empty, whatever P is", P06CanReadTest::endOfTheRange);
+        Due.test("for a target with the empty label it answers true", P06CanReadTest::emptyLabel);
+        Due.test("the owner is always an effective reader", P06CanReadTest::ownerReads);
+        Due.test("the readers of the mask, and no other", P06CanReadTest::everyMask);
+        Due.test("p must be in EFF(o,R) for every owner o with a policy", P06CanReadTest::everyPolicyCounts);
+        Due.test("who acts for the owner or for a reader reads", P06CanReadTest::actorsRead);
+        Due.test("under the current hierarchy", P06CanReadTest::followsTheHierarchy);
+        Due.test("it changes nothing", P06CanReadTest::changesNothing);
         Due.end("P06CanReadTest");
     }
 
-    private static void outOfRange() {
-        DecentLabels x = Samples.busy();
-        Seen before = Seen.of(x);
-        int[] wrong = {-1, 5, 7, 8, 32, Integer.MIN_VALUE, Integer.MAX_VALUE};
-        for (int p : wrong) {
-            Due.is("canRead(" + p + ", 0)", x.canRead(p, 0), false);
+    private static void isFalse(int p, int target) {
+        Calls.refused("canRead(" + p + ", " + target + ")", false, x -> x.canRead(p, target));
+    }
+
+    private static void endOfTheRange() {
+        for (int principals = 2; principals <= 8; principals++) {
+            DecentLabels x = new DecentLabels(principals, 8);
+            Due.is("p == P", x.canRead(principals, 0), false);
+            Due.is("p == P-1", x.canRead(principals - 1, 0), true);
+            Due.is("target 19", x.canRead(principals - 1, 19), true);
+            Due.is("target 20", x.canRead(principals - 1, 20), false);
         }
-        int[] wrongTargets = {-1, 20, Integer.MIN_VALUE, Integer.MAX_VALUE};
-        for (int target : wrongTargets) {
-            Due.is("canRead(0, " + target + ")", x.canRead(0, target), false);
-        }
-        Due.same("canRead", before.changedTo(Seen.of(x)), "");
     }
 
     private static void readersAre(String of, DecentLabels x, int target, int readers) {
@@ -30,16 +37,37 @@ public final class P06CanReadTest {
         }
     }
 
-    private static void ownerAndReaders() {
+    private static void emptyLabel() {
         DecentLabels x = new DecentLabels(8, 8);
-        readersAre("empty label", x, 19, 255);
-        x.setPolicy(19, 7, 0);
-        readersAre("owner alone", x, 19, 0b10000000);
-        x.setPolicy(19, 7, 0b00000101);
-        readersAre("owner and readers", x, 19, 0b10000101);
-        readersAre("another target", x, 18, 255);
-        x.setPolicy(19, 7, 255);
-        readersAre("all", x, 19, 255);
+        x.setPolicy(7, 3, 0);
+        for (int target = 0; target < 20; target++) {
+            if (target != 7) {
+                readersAre("another target has a policy", x, target, 255);
+            }
+        }
+        x.setPolicy(7, 3, -1);
+        readersAre("empty again", x, 7, 255);
+    }
+
+    private static void ownerReads() {
+        for (int owner = 0; owner < 8; owner++) {
+            DecentLabels x = new DecentLabels(8, 8);
+            for (int target = 0; target < 20; target++) {
+                x.setPolicy(target, owner, 0);
+                readersAre("no readers", x, target, 1 << owner);
+                x.setPolicy(target, owner, 255 - (1 << owner));
+                readersAre("all the others", x, target, 255);
+            }
+        }
+    }
+
+    private static void everyMask() {
+        DecentLabels x = new DecentLabels(8, 8);
+        for (int mask = 0; mask < 256; mask++) {
+            x.setPolicy(mask % 20, mask % 8, mask);
+            readersAre("(" + mask % 8 + " : " + mask + ")", x, mask % 20, mask | 1 << mask % 8);
+            x.setPolicy(mask % 20, mask % 8, -1);
+        }
     }
 
     private static void everyPolicyCounts() {
@@ -51,6 +79,14 @@ public final class P06CanReadTest {
         readersAre("three owners", x, 3, 0b0010);
         x.setPolicy(3, 2, 0);
         readersAre("nobody", x, 3, 0);
+        // All eight owners let all read, but for one that lets nobody.
+        for (int owner = 0; owner < 8; owner++) {
+            x = new DecentLabels(8, 8);
+            for (int other = 0; other < 8; other++) {
+                x.setPolicy(19, other, other == owner ? 0 : 255);
+            }
+            readersAre("one strict owner of eight", x, 19, 1 << owner);
+        }
     }
 
     private static void actorsRead() {
@@ -75,5 +111,11 @@ public final class P06CanReadTest {
         Due.is("by a chain", x.canRead(2, 16), true);
         x.setActsFor(1, 0, false);
         Due.is("chain cut", x.canRead(2, 16), false);
+    }
+
+    private static void changesNothing() {
+        Calls.changesNothing("canRead(0, 5)", x -> x.canRead(0, 5));
+        Calls.changesNothing("canRead(3, 5)", x -> x.canRead(3, 5));
+        Calls.changesNothing("canRead(4, 19)", x -> x.canRead(4, 19));
     }
 }

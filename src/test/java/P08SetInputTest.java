@@ -1,28 +1,45 @@
 /** Promise 8: setInput. */
 public final class P08SetInputTest {
+    private static final int[] ANY = {0, 1, -1, 77, 255, 256, 32768, 65536, -65536, Integer.MIN_VALUE,
+        Integer.MIN_VALUE + 1, Integer.MAX_VALUE - 1, Integer.MAX_VALUE};
+
     public static void main(String[] args) {
-        DecentLabels x = Samples.busy();
-        Seen before = Seen.of(x);
-        int[] wrong = {-1, 16, 17, 32, Integer.MIN_VALUE, Integer.MAX_VALUE};
-        for (int v : wrong) {
-            Samples.refused("setInput(" + v + ", 3)", x, before, x.setInput(v, 3) ? 1 : 0, 0);
-        }
-        storesWithoutReset(Samples.busy());
-        storesWithoutReset(Samples.halted());
-        storesWithoutReset(new DecentLabels(2, 8));
-        loadedByStartOnly();
+        Due.test("refused if v < 0", () -> Wrong.below(0).forEach(P08SetInputTest::refused));
+        Due.test("refused if v >= 16", () -> Wrong.from(16).forEach(P08SetInputTest::refused));
+        Due.test("value, which may be any int, is stored; nothing else changes; there is no RESET",
+            P08SetInputTest::storesWithoutReset);
+        Due.test("the first and the last variable, each alone", P08SetInputTest::inputsAreApart);
+        Due.test("the input is loaded into x[v] only by a later start", P08SetInputTest::loadedByStartOnly);
+        Due.test("any int is loaded as it is", P08SetInputTest::anyIntIsLoaded);
         Due.end("P08SetInputTest");
     }
 
-    private static void storesWithoutReset(DecentLabels x) {
-        int[] values = {1, -1, Integer.MIN_VALUE, Integer.MAX_VALUE, 77};
-        for (int v = 0; v < 16; v++) {
-            for (int value : values) {
-                Seen before = Seen.of(x);
-                String call = "setInput(" + v + ", " + value + ")";
-                Due.is(call, x.setInput(v, value), true);
-                Due.same(call, before.changedTo(Seen.of(x)), "value " + (16 + v) + "=" + value);
+    private static void refused(int v) {
+        Calls.refused("setInput(" + v + ", 3)", false, x -> x.setInput(v, 3));
+    }
+
+    private static void storesWithoutReset() {
+        for (Stage stage : Stage.values()) {
+            for (int v = 0; v < 16; v++) {
+                for (int value : ANY) {
+                    DecentLabels x = stage.make();
+                    Seen due = Seen.of(x).with("value " + (16 + v) + "=" + value);
+                    String call = "setInput(" + v + ", " + value + ") when " + stage;
+                    Due.is(call, x.setInput(v, value), true);
+                    Due.same(call, due.changedTo(Seen.of(x)), "");
+                }
             }
+        }
+    }
+
+    private static void inputsAreApart() {
+        DecentLabels x = new DecentLabels(2, 8);
+        for (int v = 0; v < 16; v++) {
+            Due.is("setInput", x.setInput(v, 1000 + v), true);
+        }
+        for (int v = 0; v < 16; v++) {
+            Due.is("input " + v, x.getValue(16 + v), 1000 + v);
+            Due.is("variable " + v, x.getValue(v), 0);
         }
     }
 
@@ -43,5 +60,19 @@ public final class P08SetInputTest {
         Due.is("nor at the end", x.getValue(6), 8);
         x.start();
         Due.is("at the next start", x.getValue(6), 13);
+    }
+
+    private static void anyIntIsLoaded() {
+        DecentLabels x = new DecentLabels(2, 8);
+        x.check();
+        for (int value : ANY) {
+            for (int v = 0; v < 16; v++) {
+                x.setInput(v, value);
+            }
+            x.start();
+            for (int v = 0; v < 16; v++) {
+                Due.is("v" + v, x.getValue(v), value);
+            }
+        }
     }
 }

@@ -62,4 +62,11 @@ final class Programs {
         Due.is("the program starts", x.start(), true);
         return x;
     }
+
+    static void holds(DecentLabels x, int channel, int... values) {
+        Due.is("outCount(" + channel + ")", x.outCount(channel), values.length);
+        for (int i = 0; i < values.length; i++) {
+            Due.is("outValue(" + channel + ", " + i + ")", x.outValue(channel, i), values[i]);
+        }
+    }
 }

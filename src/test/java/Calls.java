@@ -1,0 +1,76 @@
+import java.util.ArrayList;
+import java.util.EnumMap;
+import java.util.List;
+import java.util.Map;
+
+/** What one call does to objects in every stage. */
+final class Calls {
+    interface Call {
+        Object on(DecentLabels x);
+    }
+
+    private static final Map<Stage, List<Integer>> FUTURES = new EnumMap<>(Stage.class);
+
+    private Calls() {
+    }
+
+    /** The call answers what is due and changes nothing, in every stage. */
+    static void refused(String name, Object due, Call call) {
+        for (Stage stage : Stage.values()) {
+            DecentLabels x = stage.make();
+            Due.same(name + " when " + stage, call.on(x), due);
+        }
+        changesNothing(name, call);
+    }
+
+    /** The call changes nothing in any stage: neither what can be seen, nor what comes later. */
+    static void changesNothing(String name, Call call) {
+        for (Stage stage : Stage.values()) {
+            DecentLabels x = stage.make();
+            Seen before = Seen.of(x);
+            call.on(x);
+            Due.same("changed by " + name + " when " + stage, before.changedTo(Seen.of(x)), "");
+            List<Integer> untouched = FUTURES.computeIfAbsent(stage, s -> future(s.make()));
+            Due.is("the same later, after " + name + " when " + stage, future(x).equals(untouched), true);
+        }
+    }
+
+    /** In every stage the call answers what is due, RESETs, and beside that makes the changes alone. */
+    static void resets(String name, Object due, Call call, String... changes) {
+        for (Stage stage : Stage.values()) {
+            DecentLabels x = stage.make();
+            Seen before = Seen.of(x);
+            Due.same(name + " when " + stage, call.on(x), due);
+            Seen expected = before.reset().with(changes);
+            Due.same("not as due after " + name + " when " + stage, expected.changedTo(Seen.of(x)), "");
+            Due.is("start() after " + name + " when " + stage, x.start(), false);
+        }
+    }
+
+    // Answers to a fixed series of calls that uses all that an object holds, direct edges too.
+    private static List<Integer> future(DecentLabels x) {
+        List<Integer> answers = new ArrayList<>();
+        for (int i = 0; i < 12; i++) {
+            answers.add(x.run(1));
+            answers.add(x.getValue(DecentLabels.SLOT_POSITION));
+        }
+        Seen.of(x).addTo(answers);
+        answers.add(x.start() ? 1 : 0);
+        answers.add(x.run(1000));
+        Seen.of(x).addTo(answers);
+        answers.add(x.check());
+        answers.add(x.start() ? 1 : 0);
+        answers.add(x.run(1000));
+        Seen.of(x).addTo(answers);
+        for (int i = 0; i < 64; i++) {
+            answers.add(x.addStmt(DecentLabels.K_DECLASSIFY, i % 16, 5, 0));
+        }
+        for (int edge = 0; edge < 64; edge++) {
+            x.setActsFor(edge / 8, edge % 8, false);
+            answers.add(x.check());
+            answers.add(x.actsFor(0, 2) ? 1 : 0);
+        }
+        Seen.of(x).addTo(answers);
+        return answers;
+    }
+}
