@@ -231,7 +231,8 @@ public final class ModelTest {
         }
         for (int i = 0; i < 4 * 16; i++) {
             Due.is(name + "outCount(" + i / 16 + ")", x.outCount(i / 16), m.outCount(i / 16));
-            Due.is(name + "outValue(" + i / 16 + ", " + i % 16 + ")", x.outValue(i / 16, i % 16), m.outValue(i / 16, i % 16));
+            Due.is(name + "outValue(" + i / 16 + ", " + i % 16 + ")",
+                x.outValue(i / 16, i % 16), m.outValue(i / 16, i % 16));
         }
     }
 }

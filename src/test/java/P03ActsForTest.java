@@ -9,6 +9,7 @@ public final class P03ActsForTest {
         Due.test("actsFor(a, a) is true for every a in [0,P)", P03ActsForTest::reflexive);
         Due.test("a chain of direct edges, of any length", P03ActsForTest::longChains);
         Due.test("cycles are allowed", P03ActsForTest::cycles);
+        Due.test("every edge there can be, set and cleared again", P03ActsForTest::allEdges);
         Due.test("under the current closure: edges come and go", P03ActsForTest::followsTheEdges);
         Due.test("it changes nothing", P03ActsForTest::changesNothing);
         Due.end("P03ActsForTest");
@@ -95,6 +96,22 @@ public final class P03ActsForTest {
         }
     }
 
+    private static void allEdges() {
+        DecentLabels x = new DecentLabels(8, 8);
+        for (int edge = 0; edge < 64; edge++) {
+            Due.is("set", x.setActsFor(edge / 8, edge % 8, true), edge / 8 != edge % 8);
+        }
+        for (int pair = 0; pair < 64; pair++) {
+            Due.is("everyone for everyone", x.actsFor(pair / 8, pair % 8), true);
+        }
+        for (int edge = 0; edge < 64; edge++) {
+            Due.is("cleared", x.setActsFor(edge / 8, edge % 8, false), edge / 8 != edge % 8);
+        }
+        for (int pair = 0; pair < 64; pair++) {
+            Due.is("each for itself", x.actsFor(pair / 8, pair % 8), pair / 8 == pair % 8);
+        }
+    }
+
     private static void followsTheEdges() {
         DecentLabels x = new DecentLabels(3, 8);
         x.setActsFor(2, 1, true);
@@ -111,5 +128,7 @@ public final class P03ActsForTest {
         Calls.changesNothing("actsFor(0, 2)", x -> x.actsFor(0, 2));
         Calls.changesNothing("actsFor(2, 0)", x -> x.actsFor(2, 0));
         Calls.changesNothing("actsFor(4, 4)", x -> x.actsFor(4, 4));
+        Calls.changesNothing("actsFor(5, 5)", x -> x.actsFor(5, 5));
+        Calls.changesNothing("actsFor(0, -1)", x -> x.actsFor(0, -1));
     }
 }

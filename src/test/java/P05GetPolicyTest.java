@@ -61,5 +61,7 @@ public final class P05GetPolicyTest {
         Calls.changesNothing("getPolicy(5, 2)", x -> x.getPolicy(5, 2));
         Calls.changesNothing("getPolicy(5, 3)", x -> x.getPolicy(5, 3));
         Calls.changesNothing("getPolicy(0, 0)", x -> x.getPolicy(0, 0));
+        Calls.changesNothing("getPolicy(20, 0)", x -> x.getPolicy(20, 0));
+        Calls.changesNothing("getPolicy(5, 5)", x -> x.getPolicy(5, 5));
     }
 }

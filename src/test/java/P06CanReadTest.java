@@ -12,6 +12,7 @@ public final class P06CanReadTest {
         Due.test("p must be in EFF(o,R) for every owner o with a policy", P06CanReadTest::everyPolicyCounts);
         Due.test("who acts for the owner or for a reader reads", P06CanReadTest::actorsRead);
         Due.test("under the current hierarchy", P06CanReadTest::followsTheHierarchy);
+        Due.test("the label alone decides: authority and other labels do not", P06CanReadTest::labelAlone);
         Due.test("it changes nothing", P06CanReadTest::changesNothing);
         Due.end("P06CanReadTest");
     }
@@ -113,9 +114,23 @@ public final class P06CanReadTest {
         Due.is("chain cut", x.canRead(2, 16), false);
     }
 
+    private static void labelAlone() {
+        DecentLabels x = new DecentLabels(8, 8);
+        for (int target = 0; target < 20; target++) {
+            x.setPolicy(target, 2, target == 9 ? 0b00010000 : 0);
+        }
+        for (int mask = 0; mask < 256; mask++) {
+            x.setAuthority(mask);
+            readersAre("authority " + mask, x, 9, 0b00010100);
+            readersAre("authority " + mask, x, 10, 0b00000100);
+        }
+    }
+
     private static void changesNothing() {
         Calls.changesNothing("canRead(0, 5)", x -> x.canRead(0, 5));
         Calls.changesNothing("canRead(3, 5)", x -> x.canRead(3, 5));
         Calls.changesNothing("canRead(4, 19)", x -> x.canRead(4, 19));
+        Calls.changesNothing("canRead(5, 0)", x -> x.canRead(5, 0));
+        Calls.changesNothing("canRead(0, 20)", x -> x.canRead(0, 20));
     }
 }

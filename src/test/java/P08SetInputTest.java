@@ -6,9 +6,9 @@ public final class P08SetInputTest {
     public static void main(String[] args) {
         Due.test("refused if v < 0", () -> Wrong.below(0).forEach(P08SetInputTest::refused));
         Due.test("refused if v >= 16", () -> Wrong.from(16).forEach(P08SetInputTest::refused));
-        Due.test("value, which may be any int, is stored; nothing else changes; there is no RESET",
-            P08SetInputTest::storesWithoutReset);
-        Due.test("the first and the last variable, each alone", P08SetInputTest::inputsAreApart);
+        Due.test("value, which may be any int, is stored", P08SetInputTest::anyIntIsStored);
+        Due.test("nothing else changes: there is no RESET", P08SetInputTest::nothingElseChanges);
+        Due.test("the inputs of v0 to v15, each alone", P08SetInputTest::inputsAreApart);
         Due.test("the input is loaded into x[v] only by a later start", P08SetInputTest::loadedByStartOnly);
         Due.test("any int is loaded as it is", P08SetInputTest::anyIntIsLoaded);
         Due.end("P08SetInputTest");
@@ -18,16 +18,24 @@ public final class P08SetInputTest {
         Calls.refused("setInput(" + v + ", 3)", false, x -> x.setInput(v, 3));
     }
 
-    private static void storesWithoutReset() {
+    private static void anyIntIsStored() {
+        DecentLabels x = new DecentLabels(2, 8);
+        for (int v = 0; v < 16; v++) {
+            for (int value : ANY) {
+                Due.is("setInput(" + v + ", " + value + ")", x.setInput(v, value), true);
+                Due.is("input " + v, x.getValue(DecentLabels.SLOT_INPUT + v), value);
+            }
+        }
+    }
+
+    private static void nothingElseChanges() {
         for (Stage stage : Stage.values()) {
             for (int v = 0; v < 16; v++) {
-                for (int value : ANY) {
-                    DecentLabels x = stage.make();
-                    Seen due = Seen.of(x).with("value " + (16 + v) + "=" + value);
-                    String call = "setInput(" + v + ", " + value + ") when " + stage;
-                    Due.is(call, x.setInput(v, value), true);
-                    Due.same(call, due.changedTo(Seen.of(x)), "");
-                }
+                DecentLabels x = stage.make();
+                Seen due = Seen.of(x).with("value " + (16 + v) + "=-5");
+                String call = "setInput(" + v + ", -5) when " + stage;
+                Due.is(call, x.setInput(v, -5), true);
+                Due.same("not as due after " + call, due.changedTo(Seen.of(x)), "");
             }
         }
     }

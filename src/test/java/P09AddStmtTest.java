@@ -132,15 +132,25 @@ public final class P09AddStmtTest {
 
     private static void storesAndResets() {
         for (Stage stage : Stage.values()) {
-            DecentLabels x = stage.make();
-            int at = stage == Stage.NEW ? 0 : 8;
-            String stmt = "stmt " + at;
-            Seen due = Seen.of(x).reset().with("value 33=" + (at + 1), stmt + " 0=4", stmt + " 1=3",
-                stmt + " 2=14", stmt + " 3=5");
-            Due.is("addStmt when " + stage, x.addStmt(DecentLabels.K_SUB, 3, 14, 5), at);
-            Due.same("not as due after addStmt when " + stage, due.changedTo(Seen.of(x)), "");
-            Due.is("start() after it", x.start(), false);
+            for (int kind = 1; kind <= 13; kind++) {
+                storesAndResets(stage, kind);
+            }
         }
+    }
+
+    private static void storesAndResets(Stage stage, int kind) {
+        DecentLabels x = stage.make();
+        int at = stage == Stage.NEW ? 0 : 8;
+        int[] operands = {3, 14, 5};
+        Seen due = Seen.of(x).reset().with("value 33=" + (at + 1), "stmt " + at + " 0=" + kind);
+        for (int operand = 0; operand < 3; operand++) {
+            int stored = SHAPES[kind].charAt(operand) == '-' ? 0 : operands[operand];
+            due = due.with("stmt " + at + " " + (operand + 1) + "=" + stored);
+        }
+        String call = "kind " + kind + " when " + stage;
+        Due.is(call, x.addStmt(kind, operands[0], operands[1], operands[2]), at);
+        Due.same("not as due after " + call, due.changedTo(Seen.of(x)), "");
+        Due.is("start() after " + call, x.start(), false);
     }
 
     private static void noIndexIsLost() {

@@ -121,6 +121,7 @@ public final class P11GetStmtTest {
             int asked = field;
             Calls.changesNothing("getStmt(0, " + field + ")", x -> x.getStmt(0, asked));
             Calls.changesNothing("getStmt(7, " + field + ")", x -> x.getStmt(7, asked));
+            Calls.changesNothing("getStmt(8, " + field + ")", x -> x.getStmt(8, asked));
         }
     }
 }

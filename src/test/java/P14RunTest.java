@@ -198,7 +198,7 @@ public final class P14RunTest {
         x = Stage.STARTED.make();
         before = Seen.of(x);
         Due.is("run(1000)", x.run(1000), HALTED);
-        Due.same("run(1000)", before.changedTo(Seen.of(x)), "out 0 0=7, out 0 1=-20, out 3 0=-20, "
-            + "outCount 0=2, outCount 3=1, value 1=7, value 3=-1, value 34=8, value 35=3, value 4=50");
+        Due.same("run(1000)", before.changedTo(Seen.of(x)), "out 0 0=7, out 0 1=1002, out 3 0=1002, "
+            + "outCount 0=2, outCount 3=1, value 1=7, value 3=-1, value 34=8, value 35=3, value 4=1005");
     }
 }

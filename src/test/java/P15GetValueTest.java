@@ -87,7 +87,7 @@ public final class P15GetValueTest {
     }
 
     private static void changesNothing() {
-        for (int slot = 0; slot <= 36; slot++) {
+        for (int slot = -1; slot <= 37; slot++) {
             int asked = slot;
             Calls.changesNothing("getValue(" + slot + ")", x -> x.getValue(asked));
         }

@@ -108,10 +108,11 @@ public final class P16OutTest {
     }
 
     private static void changesNothing() {
-        for (int channel = 0; channel < 4; channel++) {
+        for (int channel = -1; channel <= 4; channel++) {
             int c = channel;
             Calls.changesNothing("outCount(" + c + ")", x -> x.outCount(c));
             Calls.changesNothing("outValue(" + c + ", 0)", x -> x.outValue(c, 0));
+            Calls.changesNothing("outValue(" + c + ", 2)", x -> x.outValue(c, 2));
         }
     }
 }

@@ -2,6 +2,7 @@ import java.util.ArrayList;
 import java.util.List;
 import java.util.Map;
 import java.util.TreeMap;
+import java.util.function.Supplier;
 
 /** All that the class answers about one object at one moment, to tell what a call changed. */
 final class Seen {
@@ -15,10 +16,15 @@ final class Seen {
     private final int[] answers = new int[NAMES.size()];
 
     static Seen of(DecentLabels x) {
+        return oneByOne(() -> x);
+    }
+
+    /** Every question put to an object of its own. */
+    static Seen oneByOne(Supplier<DecentLabels> objects) {
         Seen seen = new Seen();
         int i = 0;
         for (Question question : QUESTIONS.values()) {
-            seen.answers[i] = question.ask(x);
+            seen.answers[i] = question.ask(objects.get());
             i++;
         }
         return seen;

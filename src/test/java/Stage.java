@@ -1,7 +1,7 @@
 /**
- * The states an object can be in when a call comes. All but NEW have five principals (0 acts for 1
- * acts for 2), labels, an authority, inputs, variables from a run, and a program of 8 statements in a
- * capacity of 10. The input of v15 is another number than its value.
+ * The states an object can be in when a call comes. All have five principals and a capacity of 10. All but
+ * NEW have edges (0 acts for 1 acts for 2), labels, an authority, a program of 8 statements, and variables
+ * and inputs that are all different and not 0.
  */
 enum Stage {
     NEW, CHANGED, FAILED, READY, STARTED, RUNNING, HALTED;
@@ -13,15 +13,19 @@ enum Stage {
         }
         label(x);
         write(x);
-        x.setInput(2, -20);
-        x.setInput(5, 50);
-        x.setInput(15, 150);
+        setInputs(x, 1000);
         x.check();
         x.start();
         x.run(100);
         bring(x);
-        x.setInput(15, 151);
+        setInputs(x, 2000);
         return x;
+    }
+
+    private static void setInputs(DecentLabels x, int first) {
+        for (int v = 0; v < 16; v++) {
+            x.setInput(v, first + v);
+        }
     }
 
     private static void label(DecentLabels x) {
@@ -29,6 +33,11 @@ enum Stage {
         x.setActsFor(1, 2, true);
         x.setPolicy(5, 2, 8);
         x.setPolicy(5, 3, 0);
+        // The program does not use these targets; with all as readers they hide no change of v5's readers.
+        for (int target = 6; target < 15; target++) {
+            x.setPolicy(target, target % 5, 31);
+        }
+        x.setPolicy(17, 4, 31);
         x.setPolicy(18, 2, 31);
         x.setAuthority(9);
     }
